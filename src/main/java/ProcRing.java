@@ -335,8 +335,8 @@ public final class ProcRing {
         return NONE;
     }
 
+    // A free place is clear already: whatever frees one clears it.
     private void settle(int place, int number, int parentNumber) {
-        clearPlace(place);
         numbers[place] = number;
         parents[place] = parentNumber;
         states[place] = READY;

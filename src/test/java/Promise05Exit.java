@@ -10,6 +10,7 @@ public final class Promise05Exit {
         whoWaitsForOtherThingsGoesOnWaiting();
         anotherParentGoesOnWaiting();
         theEndOfTheFirst();
+        inTheLastPlace();
         noSuchProcess();
         CHECK.end();
     }
@@ -111,6 +112,20 @@ public final class Promise05Exit {
         CHECK.due("its processors have none: rest(1)", ring.rest(1), ProcRing.NONE);
         CHECK.due("first()", ring.first(), true);
         CHECK.due("rest(1)", ring.rest(1), ProcRing.NONE);
+    }
+
+    private static void inTheLastPlace() {
+        ProcRing ring = Rings.withLastPlaceOn();
+        CHECK.due("exit(1, 3)", ring.exit(1, 3), 14);
+        CHECK.process("ended", ring, 14, 15, 4, 1, 0, 3, ProcRing.NONE);
+        ring.exit(0, 0);
+        CHECK.emptyRing("a full ring's end", ring);
+
+        ProcRing other = Rings.withChildren(2, 13);
+        other.pick(1);
+        CHECK.due("fork(1)", other.fork(1), 14);
+        other.exit(1, 0);
+        CHECK.due("handed on: about(14, 2)", other.about(14, 2), 1);
     }
 
     private static void noSuchProcess() {

@@ -6,6 +6,7 @@ public final class Promise06Await {
         blockedUntilAChildEnds();
         onlyItsOwnChildren();
         noChildren();
+        aChildInTheLastPlace();
         onlyAChildsEndOrAKillEndsIt();
         noSuchProcess();
         CHECK.end();
@@ -66,6 +67,18 @@ public final class Promise06Await {
         CHECK.due("it goes on: about(3, 5)", ring.about(3, 5), 3);
         ring.exit(2, 0);
         CHECK.due("children that were handed on: await(0)", ring.await(0), 0);
+    }
+
+    private static void aChildInTheLastPlace() {
+        ProcRing ring = Rings.withLastPlaceOn();
+        ring.exit(1, 3);
+        CHECK.due("the only zombie: await(0)", ring.await(0), 15);
+        CHECK.due("about(14, 1)", ring.about(14, 1), 0);
+
+        ProcRing other = Rings.withChildren(2, 13);
+        other.pick(1);
+        CHECK.due("fork(1)", other.fork(1), 14);
+        CHECK.due("the only child: await(1)", other.await(1), 0);
     }
 
     private static void onlyAChildsEndOrAKillEndsIt() {

@@ -4,6 +4,7 @@ public final class Promise12Tick {
     public static void main(String[] args) {
         allAreTakenOff();
         whoseTimeHasCome();
+        inTheLastPlace();
         howMany();
         CHECK.end();
     }
@@ -48,6 +49,16 @@ public final class Promise12Tick {
         for (int place = 0; place < 6; place++) {
             CHECK.due("two: about(" + place + ", 1)", ring.about(place, 1), afterTwo[place]);
         }
+    }
+
+    private static void inTheLastPlace() {
+        ProcRing ring = Rings.withLastPlaceOn();
+        ring.tick();
+        CHECK.due("taken off: about(14, 1)", ring.about(14, 1), 1);
+        ring = Rings.withLastPlaceOn();
+        CHECK.due("sleep(1, 1)", ring.sleep(1, 1), 14);
+        ring.tick();
+        CHECK.due("its time has come: about(14, 1)", ring.about(14, 1), 1);
     }
 
     private static void howMany() {

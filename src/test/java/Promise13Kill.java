@@ -5,6 +5,7 @@ public final class Promise13Kill {
         inEveryState();
         whateverItWaitsFor();
         itKeepsThatUntilItIsGone();
+        inTheLastPlace();
         noneSuch();
         CHECK.end();
     }
@@ -58,6 +59,13 @@ public final class Promise13Kill {
         ring.await(0);
         CHECK.due("gone: about(1, 3)", ring.about(1, 3), ProcRing.NONE);
         CHECK.due("gone: kill(2)", ring.kill(2), false);
+    }
+
+    private static void inTheLastPlace() {
+        ProcRing ring = Rings.withLastPlaceOn();
+        ring.block(1, 1);
+        CHECK.due("kill(15)", ring.kill(15), true);
+        CHECK.process("killed", ring, 14, 15, 1, 1, 1, 0, ProcRing.NONE);
     }
 
     private static void noneSuch() {

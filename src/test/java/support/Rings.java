@@ -30,4 +30,13 @@ final class Rings {
         }
         return ring;
     }
+
+    /** Full: process 1 is on processor 0, its child 15 in place 14 on processor 1, the others are READY. */
+    static ProcRing withLastPlaceOn() {
+        ProcRing ring = withChildren(2, 14);
+        for (int turn = 0; turn < 15 && ring.pick(1) != 14; turn++) {
+            ring.rest(1);
+        }
+        return ring;
+    }
 }
