@@ -6,6 +6,8 @@ public final class Promise02First {
         onlyAnEmptyRingTakesAFirst();
         allBeginsAnew();
         theLookBeginsAtPlaceZeroAgain();
+        aRefusedFirstChangesNothing();
+        nothingOfTheOnesBeforeIsKept();
         CHECK.end();
     }
 
@@ -68,5 +70,35 @@ public final class Promise02First {
         ring.rest(1);
         CHECK.due("pick(0)", ring.pick(0), 1);
         CHECK.due("pick(1)", ring.pick(1), 0);
+    }
+
+    private static void aRefusedFirstChangesNothing() {
+        Twins.unchanged(CHECK, "READY: first()", () -> {
+            ProcRing ring = new ProcRing(2);
+            ring.first();
+            return ring;
+        }, ring -> ring.first() ? 1 : 0, 0);
+        Twins.unchanged(CHECK, "ON: first()", Rings::busy, ring -> ring.first() ? 1 : 0, 0);
+        Twins.unchanged(CHECK, "on a channel: first()", () -> {
+            ProcRing ring = Rings.busy();
+            ring.block(1, 5);
+            return ring;
+        }, ring -> ring.first() ? 1 : 0, 0);
+        Twins.unchanged(CHECK, "full: first()", Rings::full, ring -> ring.first() ? 1 : 0, 0);
+    }
+
+    private static void nothingOfTheOnesBeforeIsKept() {
+        ProcRing ring = Rings.emptied();
+        CHECK.due("after an end: first()", ring.first(), true);
+        CHECK.due("pick(2)", ring.pick(2), 0);
+        for (int place = 1; place <= 14; place++) {
+            CHECK.due("fork(2)", ring.fork(2), place);
+            CHECK.process("anew", ring, place, place + 1, 1, 1, 0, 0, ProcRing.NONE);
+        }
+        CHECK.due("wake(5)", ring.wake(5), 0);
+        for (int tick = 1; tick <= 4; tick++) {
+            CHECK.due("tick()", ring.tick(), tick);
+            CHECK.due("count(1)", ring.count(1), 15);
+        }
     }
 }

@@ -6,6 +6,11 @@ public final class Promise03Pick {
         inTurnRoundTheTable();
         behindTheOneTakenLastByAnyProcessor();
         onlyReadyOnesAreTaken();
+        roundTheEndToALaterPlace();
+        behindAPlaceThatIsFreeNow();
+        noneIsReady();
+        aPickInVainIsNoTaking();
+        whoHasOneTakesNoOther();
         wrongProcessors();
         CHECK.end();
     }
@@ -60,11 +65,68 @@ public final class Promise03Pick {
         CHECK.due("a killed one is taken like another: pick(1)", ring.pick(1), 2);
     }
 
-    private static void wrongProcessors() {
-        ProcRing ring = Rings.withChildren(4, 3);
-        for (int processor : Rings.NO_PROCESSORS_OF_FOUR) {
-            CHECK.due("pick(" + processor + ")", ring.pick(processor), ProcRing.NONE);
+    private static void roundTheEndToALaterPlace() {
+        ProcRing ring = Rings.withLastPlaceOn();
+        CHECK.due("place 14 was taken last: pick(1)", ring.pick(1), 14);
+        ring.rest(1);
+        CHECK.due("0 is ON: pick(1)", ring.pick(1), 1);
+        ring.rest(1);
+        CHECK.due("pick(1)", ring.pick(1), 2);
+
+        ProcRing atTheEnd = Rings.withLastPlaceOn();
+        atTheEnd.block(0, 1);
+        CHECK.due("0 is BLOCKED: pick(0)", atTheEnd.pick(0), 1);
+    }
+
+    private static void behindAPlaceThatIsFreeNow() {
+        ProcRing ring = Rings.withChildren(2, 4);
+        ring.pick(1);
+        ring.rest(1);
+        CHECK.due("pick(1)", ring.pick(1), 2);
+        ring.exit(1, 0);
+        ring.await(0);
+        CHECK.due("2 was taken last: pick(1)", ring.pick(1), 3);
+    }
+
+    private static ProcRing withNoneReady() {
+        ProcRing ring = Rings.busy();
+        ring.pick(2);
+        ring.block(2, 5);
+        ring.pick(2);
+        ring.exit(2, 0);
+        return ring;
+    }
+
+    private static void noneIsReady() {
+        Twins.refused(CHECK, "all are ON, BLOCKED or ZOMBIES: pick(2)", Promise03Pick::withNoneReady, ring -> ring.pick(2));
+        CHECK.due("count(1)", withNoneReady().count(1), 0);
+        CHECK.due("who has one has it still: pick(0)", withNoneReady().pick(0), 5);
+        CHECK.due("empty: pick(0)", new ProcRing(1).pick(0), ProcRing.NONE);
+    }
+
+    private static void aPickInVainIsNoTaking() {
+        ProcRing ring = Rings.withChildren(2, 4);
+        for (int place = 1; place <= 4; place++) {
+            CHECK.due("pick(1)", ring.pick(1), place);
+            ring.block(1, place == 2 ? 6 : 5);
         }
-        CHECK.due("count(1)", ring.count(1), 3);
+        ring.wake(6);
+        CHECK.due("pick(1)", ring.pick(1), 2);
+        ring.block(1, 6);
+        CHECK.due("none is READY: pick(1)", ring.pick(1), ProcRing.NONE);
+        CHECK.due("no such processor: pick(2)", ring.pick(2), ProcRing.NONE);
+        ring.wake(5);
+        CHECK.due("behind 2: pick(1)", ring.pick(1), 3);
+    }
+
+    private static void whoHasOneTakesNoOther() {
+        Twins.unchanged(CHECK, "pick(0)", Rings::busy, ring -> ring.pick(0), 5);
+        Twins.unchanged(CHECK, "pick(1)", Rings::busy, ring -> ring.pick(1), 0);
+    }
+
+    private static void wrongProcessors() {
+        for (int processor : Rings.NO_PROCESSORS_OF_FOUR) {
+            Twins.refused(CHECK, "pick(" + processor + ")", () -> Rings.withChildren(4, 3), ring -> ring.pick(processor));
+        }
     }
 }

@@ -46,6 +46,8 @@ public final class Promise04Fork {
         ring.await(0);
         CHECK.due("fork(0)", ring.fork(0), 1);
         CHECK.due("no number is lost: about(1, 0)", ring.about(1, 0), 16);
+        Twins.refused(CHECK, "full: fork(0)", Rings::full, full -> full.fork(0));
+        Twins.refused(CHECK, "full, by one in the last place: fork(1)", Rings::withLastPlaceOn, full -> full.fork(1));
     }
 
     private static void nothingOfTheOneBeforeIsKept() {
@@ -63,11 +65,11 @@ public final class Promise04Fork {
 
     private static void noSuchProcess() {
         CHECK.due("empty: fork(0)", new ProcRing(4).fork(0), ProcRing.NONE);
-        ProcRing ring = Rings.withFirstOn(4);
-        CHECK.due("none on it: fork(1)", ring.fork(1), ProcRing.NONE);
+        Twins.refused(CHECK, "none on it: fork(2)", Rings::busy, ring -> ring.fork(2));
         for (int processor : Rings.NO_PROCESSORS_OF_FOUR) {
-            CHECK.due("fork(" + processor + ")", ring.fork(processor), ProcRing.NONE);
+            Twins.refused(CHECK, "fork(" + processor + ")", () -> Rings.withFirstOn(4), ring -> ring.fork(processor));
         }
+        ProcRing ring = Rings.withFirstOn(4);
         ring.rest(0);
         CHECK.due("READY alone does not fork: fork(0)", ring.fork(0), ProcRing.NONE);
         CHECK.due("count(0)", ring.count(0), 1);

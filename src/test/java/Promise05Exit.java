@@ -11,6 +11,8 @@ public final class Promise05Exit {
         anotherParentGoesOnWaiting();
         theEndOfTheFirst();
         inTheLastPlace();
+        aWaitForOtherThingsOutlastsAGift();
+        aChildlessOneHandsOnNobody();
         noSuchProcess();
         CHECK.end();
     }
@@ -130,13 +132,33 @@ public final class Promise05Exit {
 
     private static void noSuchProcess() {
         CHECK.due("empty: exit(0, 1)", new ProcRing(4).exit(0, 1), ProcRing.NONE);
-        ProcRing ring = Rings.withChildren(4, 1);
-        CHECK.due("none on it: exit(1, 3)", ring.exit(1, 3), ProcRing.NONE);
+        Twins.refused(CHECK, "none on it: exit(2, 3)", Rings::busy, ring -> ring.exit(2, 3));
         for (int processor : Rings.NO_PROCESSORS_OF_FOUR) {
-            CHECK.due("exit(" + processor + ", 3)", ring.exit(processor, 3), ProcRing.NONE);
+            Twins.refused(CHECK, "exit(" + processor + ", 3)", () -> Rings.withChildren(4, 1),
+                ring -> ring.exit(processor, 3));
         }
-        CHECK.due("count(4)", ring.count(4), 0);
-        CHECK.due("count(0)", ring.count(0), 2);
-        CHECK.due("status()", ring.status(), 0);
+    }
+
+    private static void aWaitForOtherThingsOutlastsAGift() {
+        ProcRing onAChannel = Rings.withChainOfFour();
+        onAChannel.exit(3, 1);
+        onAChannel.block(0, 1);
+        onAChannel.exit(2, 2);
+        CHECK.due("given the zombie 4, on a channel: about(0, 1)", onAChannel.about(0, 1), 3);
+        ProcRing asleep = Rings.withChainOfFour();
+        asleep.exit(3, 1);
+        asleep.sleep(0, 9);
+        asleep.exit(2, 2);
+        CHECK.due("given the zombie 4, asleep: about(0, 1)", asleep.about(0, 1), 3);
+        CHECK.due("about(3, 2)", asleep.about(3, 2), 1);
+    }
+
+    private static void aChildlessOneHandsOnNobody() {
+        ProcRing ring = Rings.withChainOfFour();
+        CHECK.due("exit(3, 0)", ring.exit(3, 0), 3);
+        int[] parents = {0, 1, 2, 3};
+        for (int place = 0; place < 4; place++) {
+            CHECK.due("about(" + place + ", 2)", ring.about(place, 2), parents[place]);
+        }
     }
 }

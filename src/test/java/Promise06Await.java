@@ -8,6 +8,7 @@ public final class Promise06Await {
         noChildren();
         aChildInTheLastPlace();
         onlyAChildsEndOrAKillEndsIt();
+        aChildThatEndedBefore();
         noSuchProcess();
         CHECK.end();
     }
@@ -26,7 +27,7 @@ public final class Promise06Await {
         CHECK.due("it goes on: about(0, 5)", ring.about(0, 5), 0);
         ring.fork(0);
         ring.rest(1);
-        for (int place = 4; place != 2; place = ring.pick(1)) {
+        for (int turn = 0; turn < 15 && ring.pick(1) != 2; turn++) {
             ring.rest(1);
         }
         ring.exit(1, 66);
@@ -67,6 +68,17 @@ public final class Promise06Await {
         CHECK.due("it goes on: about(3, 5)", ring.about(3, 5), 3);
         ring.exit(2, 0);
         CHECK.due("children that were handed on: await(0)", ring.await(0), 0);
+        Twins.refused(CHECK, "no children: await(0)", Rings::busy, busy -> busy.await(0));
+        Twins.refused(CHECK, "the only one: await(0)", () -> Rings.withFirstOn(1), alone -> alone.await(0));
+    }
+
+    private static void aChildThatEndedBefore() {
+        ProcRing ring = Rings.busy();
+        CHECK.due("place 4 alone has a zombie: await(1)", ring.await(1), 5);
+        CHECK.due("status()", ring.status(), 44);
+        CHECK.due("its place is free: fork(1)", ring.fork(1), 4);
+        CHECK.due("the others live: await(1)", ring.await(1), 0);
+        CHECK.due("about(0, 1)", ring.about(0, 1), 3);
     }
 
     private static void aChildInTheLastPlace() {
@@ -96,11 +108,10 @@ public final class Promise06Await {
 
     private static void noSuchProcess() {
         CHECK.due("empty: await(0)", new ProcRing(4).await(0), ProcRing.NONE);
-        ProcRing ring = Rings.withChildren(4, 1);
-        CHECK.due("none on it: await(1)", ring.await(1), ProcRing.NONE);
+        Twins.refused(CHECK, "none on it: await(2)", Rings::busy, ring -> ring.await(2));
         for (int processor : Rings.NO_PROCESSORS_OF_FOUR) {
-            CHECK.due("await(" + processor + ")", ring.await(processor), ProcRing.NONE);
+            Twins.refused(CHECK, "await(" + processor + ")", () -> Rings.withChildren(4, 1),
+                ring -> ring.await(processor));
         }
-        CHECK.due("about(0, 1)", ring.about(0, 1), 2);
     }
 }

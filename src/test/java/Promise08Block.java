@@ -5,6 +5,8 @@ public final class Promise08Block {
         blockedUntilItsChannelIsWoken();
         aChannelIsAnyInt();
         aKilledOneCanBeBlocked();
+        theFirstCanBeBlockedLikeAnother();
+        inTheLastPlace();
         noSuchProcess();
         CHECK.end();
     }
@@ -42,11 +44,26 @@ public final class Promise08Block {
 
     private static void noSuchProcess() {
         CHECK.due("empty: block(0, 1)", new ProcRing(4).block(0, 1), ProcRing.NONE);
-        ProcRing ring = Rings.withChildren(4, 1);
-        CHECK.due("none on it: block(1, 1)", ring.block(1, 1), ProcRing.NONE);
+        Twins.refused(CHECK, "none on it: block(2, 1)", Rings::busy, ring -> ring.block(2, 1));
         for (int processor : Rings.NO_PROCESSORS_OF_FOUR) {
-            CHECK.due("block(" + processor + ", 1)", ring.block(processor, 1), ProcRing.NONE);
+            Twins.refused(CHECK, "block(" + processor + ", 1)", () -> Rings.withChildren(4, 1),
+                ring -> ring.block(processor, 1));
         }
-        CHECK.due("count(3)", ring.count(3), 0);
+    }
+
+    private static void theFirstCanBeBlockedLikeAnother() {
+        ProcRing ring = Rings.withFirstOn(1);
+        CHECK.due("block(0, 3)", ring.block(0, 3), 0);
+        CHECK.process("all are BLOCKED", ring, 0, 1, 3, 0, 0, 0, ProcRing.NONE);
+        CHECK.due("the ring is not empty: first()", ring.first(), false);
+        CHECK.due("pick(0)", ring.pick(0), ProcRing.NONE);
+    }
+
+    private static void inTheLastPlace() {
+        ProcRing ring = Rings.withLastPlaceOn();
+        CHECK.due("block(1, 14)", ring.block(1, 14), 14);
+        CHECK.due("wake(13)", ring.wake(13), 0);
+        CHECK.due("wake(14)", ring.wake(14), 1);
+        CHECK.due("about(14, 1)", ring.about(14, 1), 1);
     }
 }

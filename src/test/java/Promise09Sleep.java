@@ -34,6 +34,7 @@ public final class Promise09Sleep {
         for (int n : below) {
             CHECK.due("sleep(1, " + n + ")", ring.sleep(1, n), 1);
             CHECK.process("it goes on", ring, 1, 2, 2, 1, 0, 0, 1);
+            Twins.unchanged(CHECK, "sleep(0, " + n + ")", Rings::busy, busy -> busy.sleep(0, n), 5);
         }
     }
 
@@ -81,13 +82,12 @@ public final class Promise09Sleep {
 
     private static void noSuchProcess() {
         CHECK.due("empty: sleep(0, 1)", new ProcRing(4).sleep(0, 1), ProcRing.NONE);
-        ProcRing ring = Rings.withChildren(4, 1);
-        CHECK.due("none on it: sleep(1, 1)", ring.sleep(1, 1), ProcRing.NONE);
-        CHECK.due("none on it: sleep(1, 0)", ring.sleep(1, 0), ProcRing.NONE);
-        for (int processor : Rings.NO_PROCESSORS_OF_FOUR) {
-            CHECK.due("sleep(" + processor + ", 1)", ring.sleep(processor, 1), ProcRing.NONE);
-            CHECK.due("sleep(" + processor + ", 0)", ring.sleep(processor, 0), ProcRing.NONE);
+        for (int n : new int[] {Integer.MIN_VALUE, -1, 0, 1, Integer.MAX_VALUE}) {
+            Twins.refused(CHECK, "none on it: sleep(2, " + n + ")", Rings::busy, ring -> ring.sleep(2, n));
+            for (int processor : Rings.NO_PROCESSORS_OF_FOUR) {
+                Twins.refused(CHECK, "sleep(" + processor + ", " + n + ")", () -> Rings.withChildren(4, 1),
+                    ring -> ring.sleep(processor, n));
+            }
         }
-        CHECK.due("count(3)", ring.count(3), 0);
     }
 }

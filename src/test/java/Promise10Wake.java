@@ -4,6 +4,8 @@ public final class Promise10Wake {
     public static void main(String[] args) {
         allOnTheChannel();
         nobodyElse();
+        nobodyThere();
+        aWokenOneIsNotOnAProcessor();
         CHECK.end();
     }
 
@@ -42,5 +44,23 @@ public final class Promise10Wake {
         CHECK.due("about(4, 1)", ring.about(4, 1), 2);
         CHECK.due("wake(5)", ring.wake(5), 0);
         CHECK.due("about(4, 1)", ring.about(4, 1), 2);
+    }
+
+    private static void nobodyThere() {
+        int[] others = {0, 1, 3, 4, 6, 44, -1, -5, 5 + 256, 5 + 65536, Integer.MIN_VALUE, Integer.MIN_VALUE + 5, Integer.MAX_VALUE};
+        for (int channel : others) {
+            Twins.unchanged(CHECK, "wake(" + channel + ")", Rings::busy, ring -> ring.wake(channel), 0);
+            Twins.unchanged(CHECK, "new: wake(" + channel + ")", () -> new ProcRing(3), ring -> ring.wake(channel), 0);
+        }
+        Twins.unchanged(CHECK, "its one is gone: wake(5)", Rings::emptied, ring -> ring.wake(5), 0);
+    }
+
+    private static void aWokenOneIsNotOnAProcessor() {
+        ProcRing ring = Rings.busy();
+        CHECK.due("wake(5)", ring.wake(5), 1);
+        CHECK.process("woken", ring, 2, 3, 1, 1, 0, 0, ProcRing.NONE);
+        CHECK.due("behind 6: pick(2)", ring.pick(2), 7);
+        ring.rest(2);
+        CHECK.due("in its turn: pick(2)", ring.pick(2), 2);
     }
 }

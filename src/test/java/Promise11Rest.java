@@ -3,6 +3,7 @@ public final class Promise11Rest {
 
     public static void main(String[] args) {
         readyAgain();
+        inTheLastPlace();
         noSuchProcess();
         CHECK.end();
     }
@@ -22,11 +23,16 @@ public final class Promise11Rest {
 
     private static void noSuchProcess() {
         CHECK.due("empty: rest(0)", new ProcRing(4).rest(0), ProcRing.NONE);
-        ProcRing ring = Rings.withChildren(4, 1);
-        CHECK.due("none on it: rest(1)", ring.rest(1), ProcRing.NONE);
+        Twins.refused(CHECK, "none on it: rest(2)", Rings::busy, ring -> ring.rest(2));
         for (int processor : Rings.NO_PROCESSORS_OF_FOUR) {
-            CHECK.due("rest(" + processor + ")", ring.rest(processor), ProcRing.NONE);
+            Twins.refused(CHECK, "rest(" + processor + ")", () -> Rings.withChildren(4, 1),
+                ring -> ring.rest(processor));
         }
-        CHECK.due("about(0, 1)", ring.about(0, 1), 2);
+    }
+
+    private static void inTheLastPlace() {
+        ProcRing ring = Rings.withLastPlaceOn();
+        CHECK.due("rest(1)", ring.rest(1), 14);
+        CHECK.process("at rest", ring, 14, 15, 1, 1, 0, 0, ProcRing.NONE);
     }
 }

@@ -6,6 +6,8 @@ public final class Promise12Tick {
         whoseTimeHasCome();
         inTheLastPlace();
         howMany();
+        anEmptyRingHasNoTicks();
+        whoIsNeitherOnNorAsleepStays();
         CHECK.end();
     }
 
@@ -74,5 +76,30 @@ public final class Promise12Tick {
         CHECK.due("empty again: tick()", ring.tick(), ProcRing.NONE);
         ring.first();
         CHECK.due("anew: tick()", ring.tick(), 1);
+    }
+
+    private static void anEmptyRingHasNoTicks() {
+        Twins.refused(CHECK, "new: tick()", () -> new ProcRing(2), ring -> ring.tick());
+        Twins.refused(CHECK, "emptied: tick()", Rings::emptied, ring -> ring.tick());
+        ProcRing ring = Rings.withFirstOn(1);
+        ring.block(0, 1);
+        CHECK.due("not empty, though none can go on: tick()", ring.tick(), 1);
+    }
+
+    private static void whoIsNeitherOnNorAsleepStays() {
+        ProcRing ring = Rings.busy();
+        int[] states = {1, 3, 3, 3, 4, 1, 1, 1};
+        for (int tick = 2; tick <= 3; tick++) {
+            CHECK.due("tick()", ring.tick(), tick);
+            for (int place = 0; place < states.length; place++) {
+                CHECK.due("tick " + tick + ": about(" + place + ", 1)", ring.about(place, 1), states[place]);
+            }
+        }
+        CHECK.due("tick()", ring.tick(), 4);
+        states[3] = 1;
+        for (int place = 0; place < states.length; place++) {
+            CHECK.due("tick 4: about(" + place + ", 1)", ring.about(place, 1), states[place]);
+        }
+        CHECK.due("its status is kept: about(4, 4)", ring.about(4, 4), 44);
     }
 }

@@ -6,6 +6,8 @@ public final class Promise13Kill {
         whateverItWaitsFor();
         itKeepsThatUntilItIsGone();
         inTheLastPlace();
+        byNumberAndNotByPlace();
+        twiceIsOnce();
         noneSuch();
         CHECK.end();
     }
@@ -76,7 +78,32 @@ public final class Promise13Kill {
         }
         CHECK.due("about(0, 3)", ring.about(0, 3), 0);
         CHECK.due("about(1, 3)", ring.about(1, 3), 0);
+        for (int number : new int[] {Integer.MIN_VALUE, -1, 0, 9, 10, 15, 16, Integer.MAX_VALUE}) {
+            Twins.unchanged(CHECK, "kill(" + number + ")", Rings::busy, busy -> busy.kill(number) ? 1 : 0, 0);
+        }
+        Twins.unchanged(CHECK, "a ZOMBIE: kill(5)", Rings::busy, busy -> busy.kill(5) ? 1 : 0, 0);
+        for (int number = 0; number <= 9; number++) {
+            int gone = number;
+            Twins.unchanged(CHECK, "gone: kill(" + gone + ")", Rings::emptied, empty -> empty.kill(gone) ? 1 : 0, 0);
+        }
         CHECK.due("empty: kill(0)", new ProcRing(1).kill(0), false);
         CHECK.due("empty: kill(1)", new ProcRing(1).kill(1), false);
+    }
+
+    private static void byNumberAndNotByPlace() {
+        ProcRing ring = Rings.withChildren(2, 2);
+        ring.pick(1);
+        ring.exit(1, 0);
+        ring.await(0);
+        ring.fork(0);
+        CHECK.due("kill(4)", ring.kill(4), true);
+        CHECK.process("4 is in place 1", ring, 1, 4, 1, 1, 1, 0, ProcRing.NONE);
+        CHECK.due("the one that was there: kill(2)", ring.kill(2), false);
+        CHECK.due("about(2, 3)", ring.about(2, 3), 0);
+        CHECK.due("about(0, 3)", ring.about(0, 3), 0);
+    }
+
+    private static void twiceIsOnce() {
+        Twins.unchanged(CHECK, "ON and killed: kill(6)", Rings::busy, ring -> ring.kill(6) ? 1 : 0, 1);
     }
 }

@@ -7,6 +7,9 @@ public final class Promise14About {
         inEveryState();
         noProcess();
         wrongPlacesAndWhats();
+        ofAPlaceThatIsFreeAgain();
+        onEveryProcessor();
+        aQuestionChangesNothing();
         CHECK.end();
     }
 
@@ -45,5 +48,34 @@ public final class Promise14About {
             CHECK.due("about(14, " + what + ")", ring.about(14, what), ProcRing.NONE);
             CHECK.due("free: about(0, " + what + ")", new ProcRing(1).about(0, what), ProcRing.NONE);
         }
+    }
+
+    private static void ofAPlaceThatIsFreeAgain() {
+        ProcRing ring = Rings.busy();
+        ring.await(1);
+        CHECK.process("awaited", ring, 4, ProcRing.NONE, 0, ProcRing.NONE, ProcRing.NONE, ProcRing.NONE, ProcRing.NONE);
+        ProcRing empty = Rings.emptied();
+        for (int place = 0; place < 15; place++) {
+            CHECK.process("emptied", empty, place,
+                ProcRing.NONE, 0, ProcRing.NONE, ProcRing.NONE, ProcRing.NONE, ProcRing.NONE);
+        }
+    }
+
+    private static void onEveryProcessor() {
+        ProcRing ring = Rings.withChainOfFour();
+        for (int processor = 0; processor < 4; processor++) {
+            CHECK.due("about(" + processor + ", 5)", ring.about(processor, 5), processor);
+        }
+        ring.rest(2);
+        CHECK.due("on none: about(2, 5)", ring.about(2, 5), ProcRing.NONE);
+    }
+
+    private static void aQuestionChangesNothing() {
+        for (int what = -1; what <= 6; what++) {
+            int its = what;
+            Twins.refused(CHECK, "about(15, " + its + ")", Rings::busy, ring -> ring.about(15, its));
+        }
+        Twins.refused(CHECK, "about(2, 6)", Rings::busy, ring -> ring.about(2, 6));
+        Twins.unchanged(CHECK, "about(2, 1)", Rings::busy, ring -> ring.about(2, 1), 3);
     }
 }

@@ -39,4 +39,44 @@ final class Rings {
         }
         return ring;
     }
+
+    /** Full: process 1 is on the only processor, its children 2 .. 15 are READY. */
+    static ProcRing full() {
+        return withChildren(1, 14);
+    }
+
+    /**
+     * Three processors and every state. ON: 6 (killed, place 5, processor 0) and 1 (place 0, processor 1).
+     * BLOCKED: 2 (place 1) for its child 8, 3 (place 2) on channel 5, 4 (place 3) for three ticks.
+     * ZOMBIE: 5 (place 4, status 44). READY: 7 and 8 (places 6 and 7). All but 8 are 1's children; one tick is past,
+     * and place 6 was taken last.
+     */
+    static ProcRing busy() {
+        ProcRing ring = withChildren(3, 6);
+        ring.tick();
+        ring.pick(0);
+        ring.fork(0);
+        ring.await(0);
+        ring.pick(0);
+        ring.block(0, 5);
+        ring.pick(0);
+        ring.sleep(0, 3);
+        ring.pick(0);
+        ring.exit(0, 44);
+        ring.pick(0);
+        ring.kill(6);
+        for (int turn = 0; turn < 3 && ring.pick(1) != 0; turn++) {
+            ring.rest(1);
+        }
+        ring.pick(2);
+        ring.rest(2);
+        return ring;
+    }
+
+    /** Empty again: busy(), and then process 1 has ended with the status 9. */
+    static ProcRing emptied() {
+        ProcRing ring = busy();
+        ring.exit(1, 9);
+        return ring;
+    }
 }
