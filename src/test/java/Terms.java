@@ -1,3 +1,5 @@
+import com.sun.management.ThreadMXBean;
+import java.lang.management.ManagementFactory;
 import java.util.function.Consumer;
 import java.util.function.ToIntFunction;
 
@@ -10,6 +12,7 @@ public final class Terms {
     public static void main(String[] args) {
         aRingServesFiveHundredTwelveCalls();
         aRingsMemoryIsItsOwn();
+        aRingsMemoryIsMadeOnce();
         placesGoFromZeroToFourteen();
         processorsGoFromZeroToNMinusOne();
         aProcessIsOnOneProcessorAlone();
@@ -54,6 +57,48 @@ public final class Terms {
         other.exit(0, 6);
         CHECK.due("its own status()", ring.status(), 0);
         Twins.alike(CHECK, "beside another", ring, Rings.busy());
+    }
+
+    private static void everyCall(ProcRing ring) {
+        for (int round = 0; round < 10; round++) {
+            ring.first();
+            for (int processor = -1; processor < 4; processor++) {
+                ring.pick(processor);
+                ring.fork(processor);
+                ring.await(processor);
+                ring.pick(processor);
+                ring.kill(processor);
+                ring.about(0, processor + 2);
+                ring.count(processor);
+            }
+            ring.sleep(0, 1);
+            ring.block(1, 5);
+            ring.rest(2);
+            ring.exit(2, 1);
+            ring.status();
+            ring.wake(5);
+            ring.tick();
+        }
+        ring.kill(1);
+        ring.tick();
+        for (int turn = 0; turn < 15 && ring.count(0) > 0; turn++) {
+            ring.pick(0);
+            ring.exit(0, 1);
+        }
+    }
+
+    // The machine may make something of its own in one round or another, so the least of some rounds counts.
+    private static void aRingsMemoryIsMadeOnce() {
+        ThreadMXBean threads = (ThreadMXBean) ManagementFactory.getThreadMXBean();
+        long least = Long.MAX_VALUE;
+        for (int round = 0; round < 8; round++) {
+            ProcRing ring = new ProcRing(3);
+            long before = threads.getCurrentThreadAllocatedBytes();
+            everyCall(ring);
+            least = Math.min(least, threads.getCurrentThreadAllocatedBytes() - before);
+            CHECK.due("all was done: count(0)", ring.count(0), 0);
+        }
+        CHECK.due("bytes made after the constructor", (int) least, 0);
     }
 
     private static void placesGoFromZeroToFourteen() {
